@@ -371,7 +371,7 @@ public final class SoupReader {
         return OTHER;
     }
 
-    /** A NAME is kept in a long, its last byte lowest: two are the same if their longs are; of a ninth byte nothing comes. */
+    /** A NAME is kept in a long, its last byte lowest, so that two can be compared at once; a ninth byte is cut off. */
     private static long longer(long name, int b) {
         boolean full = name >>> (8 * (NAME_ROOM - 1)) != 0;
         return full ? name : name << 8 | b;
@@ -576,9 +576,9 @@ public final class SoupReader {
             }
         }
 
-        void copyFrom(Attribute other) {
-            begin(other.attributeName);
-            for (int i = 0; i < other.length && i < VALUE_ROOM; i++) {
+        void takeValueOf(Attribute other) {
+            length = 0;
+            for (int i = 0; i < other.length && i < other.value.length; i++) {
                 put(other.value[i]);
             }
         }
@@ -623,7 +623,7 @@ public final class SoupReader {
                 Attribute from = other.itemAt(i);
                 Attribute to = from == null ? null : grow(from.attributeName);
                 if (to != null) {
-                    to.copyFrom(from);
+                    to.takeValueOf(from);
                 }
             }
         }
@@ -662,7 +662,7 @@ public final class SoupReader {
             attributes.count = 0;
             length = 0;
             toldTooLong = false;
-            // only those that were a TEXT once need the room for its bytes
+            // made late: a NODE that is never a TEXT needs none
             if (tag == TEXT && bytes == null) {
                 bytes = new byte[TEXT_ROOM];
             }

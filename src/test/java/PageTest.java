@@ -152,12 +152,15 @@ public final class PageTest {
         Check.read("<!----->b", "b", "");
         Check.read("<b><!-- </b> --></b>", "<b></b>", "");
         Check.read("<!--a--><!--b-->", "", "");
+        Check.read("<!--x->y--z>-- >-->b", "b", "");
+        Check.read("x!--y-->z", "x!--y--&gt;z", "");
     }
 
     private static void styles() {
         Check.read("<style>a<b>&lt;<!--</style>x", "<style>a<b>&lt;<!--</style>x", "");
         Check.read("<STYLE>a</STYLE></style>x", "<style>a</STYLE></style>x", "");
         Check.read("<style></style>x", "<style></style>x", "");
+        Check.read("<style>a/style>< /style></style>x", "<style>a/style>< /style></style>x", "");
         Check.read("<style> \n </style>x", "<style></style>x", "");
         Check.read("<style> x </style>y", "<style> x </style>y", "");
         Check.read("<style>a</style b=c >x", "<style>a</style>x", "");
