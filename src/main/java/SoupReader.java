@@ -952,7 +952,7 @@ public final class SoupReader {
                 if (partsAttributes(page.byteAt(at))) {
                     at++;
                 } else {
-                    readAttribute();
+                    readAttribute(isEnd);
                 }
             }
             if (at >= page.length) {
@@ -986,17 +986,24 @@ public final class SoupReader {
             return isBlank(b) || b == '/';
         }
 
-        private void readAttribute() {
+        private void readAttribute(boolean ofEndTag) {
             int first = at;
             long name = readAttributeName();
-            Attribute come = seen.named(name) == null ? seen.grow(name) : null;
-            if (come == null) {
-                faults.tell(ATTRIBUTE_TOO_MUCH, first);
-            }
+            // an end TAG never has one, so none of its own can be one too many
+            Attribute come = ofEndTag ? null : takeAttribute(name, first);
             if (page.byteAt(at) == '=') {
                 at++;
                 readValue(come);
             }
+        }
+
+        /** The ATTRIBUTE that the TAG gets; null if it is gone. */
+        private Attribute takeAttribute(long name, int place) {
+            Attribute come = seen.named(name) == null ? seen.grow(name) : null;
+            if (come == null) {
+                faults.tell(ATTRIBUTE_TOO_MUCH, place);
+            }
+            return come;
         }
 
         /** Its first byte may be any, a = too. */

@@ -4,6 +4,7 @@ public final class FaultTest {
         told();
         notEnded();
         tooManyAttributes();
+        attributesOfEndTags();
         nothingToClose();
         closedByOthers();
         tooDeep();
@@ -74,9 +75,22 @@ public final class FaultTest {
         Check.read("<x a a a b></x>", "<x a=\"\" b=\"\"></x>", "2@5 2@7");
         Check.read("<x a b c d a></x>", "<x a=\"\" b=\"\" c=\"\" d=\"\"></x>", "2@11");
         Check.read("<x y='>' y='>'>z</x>", "<x y=\"&gt;\">z</x>", "2@9");
-        Check.read("<x>1</x a a b c d e>2", "<x>1</x>2", "2@10 2@18");
-        Check.read("1</x a a>2", "12", "2@7 3@1");
         Check.read("<x a=1></x><y a=2></y>", "<x a=\"1\"></x><y a=\"2\"></y>", "");
+    }
+
+    private static void attributesOfEndTags() {
+        Check.read("<p></p a a>", "<p></p>", "");
+        Check.read("<x>1</x a a b c d e>2", "<x>1</x>2", "");
+        Check.read("<x>1</x a b c d e f g h>2", "<x>1</x>2", "");
+        Check.read("<x>1</x a='>' a=\">\" a=&gt;>2", "<x>1</x>2", "");
+        Check.read("1</x a a>2", "12", "3@1");
+        Check.read("1</br a a b c d e>2", "12", "3@1");
+        Check.read("<b><i>x</b c c>", "<b><i>x</i></b>", "4@3");
+        Check.read("<b>x</b c c", "<b>x</b>", "1@4 4@0");
+        Check.read("<style>x</style a a>y", "<style>x</style>y", "");
+        Check.read("<x></x a b c d><y a b c d></y>", "<x></x><y a=\"\" b=\"\" c=\"\" d=\"\"></y>", "");
+        Check.read("<x a a></x a a><y a a></y>", "<x a=\"\"></x><y a=\"\"></y>", "2@5 2@20");
+        Check.read("<x a=1><y></y a=2 b=3>z</x>", "<x a=\"1\"><y></y>z</x>", "");
     }
 
     private static void nothingToClose() {
@@ -177,7 +191,6 @@ public final class FaultTest {
 
     private static void order() {
         Check.read("<p><b>x<div y y>z", "<p><b>x</b></p><div y=\"\">z</div>", "2@14 4@3 4@7");
-        Check.read("<b><i>x</b c c>", "<b><i>x</i></b>", "2@13 4@3");
         Check.read("</q><b x x>y</i></b><!--", "<b x=\"\">y</b>", "3@0 2@9 3@12 1@20");
     }
 }

@@ -364,6 +364,10 @@ final class PlainSoup {
 
     private void tag(Matcher whole) {
         String name = cut(whole.group(2));
+        if (!whole.group(1).isEmpty()) {
+            endTag(name);
+            return;
+        }
         Map<String, String> given = new LinkedHashMap<>();
         Matcher one = ONE_ATTRIBUTE.matcher(page).region(whole.start(3), whole.end(3));
         while (one.find()) {
@@ -378,11 +382,7 @@ final class PlainSoup {
             }
             given.put(key, value.substring(0, Math.min(60, value.length())));
         }
-        if (whole.group(1).isEmpty()) {
-            start(name, given);
-        } else {
-            endTag(name);
-        }
+        start(name, given);
     }
 
     private Item openOne(String name) {
