@@ -14,7 +14,7 @@ public final class ChangeTest {
     }
 
     private static void adds() {
-        SoupReader x = new SoupReader();
+        Soup x = new Soup();
         Check.due("add", Check.add(x, 0, "p"), 1);
         Check.due("add", Check.add(x, 1, "b"), 2);
         Check.due("add", Check.add(x, 1, "other9"), 3);
@@ -34,7 +34,7 @@ public final class ChangeTest {
     }
 
     private static void addsWithoutRoom() {
-        SoupReader x = new SoupReader();
+        Soup x = new Soup();
         for (int n = 0; n < 20; n++) {
             Check.due("deeper", Check.add(x, n, "b"), n + 1);
         }
@@ -51,7 +51,7 @@ public final class ChangeTest {
     }
 
     private static void texts() {
-        SoupReader x = new SoupReader();
+        Soup x = new Soup();
         Check.page(x, "<p>a<b>c</b>d</p>e");
         Check.due("text(1)", Check.text(x, 1, "n<&>"), 4);
         Check.due("tree", Check.written(x, 0), "<div><p>n&lt;&amp;&gt;</p>e</div>");
@@ -85,7 +85,7 @@ public final class ChangeTest {
     }
 
     private static void textsWithoutRoom() {
-        SoupReader x = new SoupReader();
+        Soup x = new Soup();
         for (int n = 0; n < 20; n++) {
             Check.add(x, n, "b");
         }
@@ -106,7 +106,7 @@ public final class ChangeTest {
     }
 
     private static void sets() {
-        SoupReader x = new SoupReader();
+        Soup x = new Soup();
         Check.page(x, "<p b=1>t</p><br>");
         Check.due("a new one", Check.set(x, 1, "id=q r=\"&lt;\n"), 2);
         Check.due("tree", Check.written(x, 1), "<p b=\"1\" id=\"q r=&quot;&amp;lt;\n\">t</p>");
@@ -137,7 +137,7 @@ public final class ChangeTest {
         String[] texts = {"", "=", "=x", "1=x", "a", "abc", "a b=c", "a =b", "aB=c", "abcdefghi=x", "abcdefgh", "a-=b", " a=b"};
         int[] places = {0, 0, 0, 0, 1, 3, 1, 1, 1, 8, 8, 1, 0};
         for (int i = 0; i < texts.length; i++) {
-            SoupReader x = new SoupReader();
+            Soup x = new Soup();
             Check.due("set of '" + texts[i] + "'", Check.set(x, 0, texts[i]), -1000 - places[i]);
             Check.due("nothing is changed", x.node(0, 4), 0);
             Check.due("set of '" + texts[i] + "' in no NODE", Check.set(x, 50, texts[i]), -1000 - places[i]);
@@ -145,7 +145,7 @@ public final class ChangeTest {
     }
 
     private static void removes() {
-        SoupReader x = new SoupReader();
+        Soup x = new Soup();
         Check.page(x, "a<p>b<i>c</i>d</p>e<br>");
         Check.due("THE ROOT stays", x.remove(0), -1);
         for (int n : new int[] {-1, 9, 60, 119, 120, Integer.MIN_VALUE, Integer.MAX_VALUE}) {
@@ -170,7 +170,7 @@ public final class ChangeTest {
     }
 
     private static void leastFreeNumbers() {
-        SoupReader x = new SoupReader();
+        Soup x = new Soup();
         Check.page(x, "<b></b><b><i></i></b><b></b><b></b>");
         x.remove(5);
         x.remove(2);
@@ -183,7 +183,7 @@ public final class ChangeTest {
     }
 
     private static void finds() {
-        SoupReader x = new SoupReader();
+        Soup x = new Soup();
         // 1 b, 2 i, 3 b, 4 text, 5 text, 6 p, 7 b, 8 xyz, 9 div
         Check.page(x, "<b><i><b>b</b></i>t</b><p><b></b></p><xyz></xyz><div></div>");
         Check.due("from THE ROOT on", Check.find(x, -1, "div"), 0);

@@ -13,8 +13,26 @@ final class Check {
     static void due(String call, String got, String want) {
         if (!got.equals(want)) {
             wrong++;
-            System.out.println(call + " answered " + got + ", due is " + want);
+            int from = Math.max(0, firstOther(got, want) - 40);
+            System.out.println(call + " answered " + piece(got, from) + ", due is " + piece(want, from));
         }
+    }
+
+    private static int firstOther(String a, String b) {
+        int i = 0;
+        while (i < a.length() && i < b.length() && a.charAt(i) == b.charAt(i)) {
+            i++;
+        }
+        return i;
+    }
+
+    /** A long text as what stands from there on. */
+    private static String piece(String text, int from) {
+        if (text.length() <= 500) {
+            return text;
+        }
+        int to = Math.min(text.length(), from + 200);
+        return (from == 0 ? "" : "..") + text.substring(from, to) + (to == text.length() ? "" : "..");
     }
 
     /** Ends the program, with exit code 1 if an answer was not as due. */
@@ -26,7 +44,7 @@ final class Check {
     }
 
     /** THE TAPE holds the text alone; its characters are bytes. */
-    static void tape(SoupReader x, String text) {
+    static void tape(Soup x, String text) {
         x.end(0);
         for (int i = 0; i < text.length(); i += 20) {
             x.feed(four(text, i), four(text, i + 4), four(text, i + 8), four(text, i + 12), four(text, i + 16));
@@ -42,38 +60,78 @@ final class Check {
         return four;
     }
 
-    static int page(SoupReader x, String text) {
+    static int page(Soup x, String text) {
         tape(x, text);
         return x.page();
     }
 
-    static int attribute(SoupReader x, int n, String text) {
+    static int attribute(Soup x, int n, String text) {
         tape(x, text);
         return x.attribute(n);
     }
 
-    static int add(SoupReader x, int n, String text) {
+    static int add(Soup x, int n, String text) {
         tape(x, text);
         return x.add(n);
     }
 
-    static int text(SoupReader x, int n, String text) {
+    static int text(Soup x, int n, String text) {
         tape(x, text);
         return x.text(n);
     }
 
-    static int set(SoupReader x, int n, String text) {
+    static int set(Soup x, int n, String text) {
         tape(x, text);
         return x.set(n);
     }
 
-    static int find(SoupReader x, int behind, String text) {
+    static int find(Soup x, int behind, String text) {
         tape(x, text);
         return x.find(behind);
     }
 
+    /** A call that takes a text, by its name; page() has no n. */
+    static int ask(String call, Soup x, int n, String text) {
+        tape(x, text);
+        return askOfTape(call, x, n);
+    }
+
+    /** The same, of the text that is on THE TAPE. */
+    static int askOfTape(String call, Soup x, int n) {
+        switch (call) {
+            case "page": return x.page();
+            case "attribute": return x.attribute(n);
+            case "add": return x.add(n);
+            case "text": return x.text(n);
+            case "set": return x.set(n);
+            case "find": return x.find(n);
+            default: throw new IllegalArgumentException(call);
+        }
+    }
+
+    /** The call answers so, and behind it all is as it was, but that THE TAPE is empty. */
+    static void refused(String call, Soup x, int n, String text, int want) {
+        String told = call + " of '" + text + "' in " + n;
+        String before = state(x);
+        due(told, ask(call, x, n, text), want);
+        due("all behind " + told, state(x), before);
+        due("end(1) behind " + told, x.end(1), NONE);
+    }
+
+    /** All that can be asked for, but THE TAPE. */
+    static String state(Soup x) {
+        StringBuilder all = new StringBuilder("OUT ").append(out(x)).append(" FAULTS ").append(x.faults());
+        all.append(' ').append(faults(x)).append(" NODES");
+        for (int n = 0; n < 120; n++) {
+            for (int what = 0; what < 7 && x.node(n, 0) != NONE; what++) {
+                all.append(what == 0 ? " " + n + ": " : ",").append(x.node(n, what));
+            }
+        }
+        return all.append(' ').append(written(x.again(), 0)).toString();
+    }
+
     /** THE OUT as a text. */
-    static String out(SoupReader x) {
+    static String out(Soup x) {
         StringBuilder all = new StringBuilder();
         for (int i = 0; x.out(i) != NONE; i++) {
             all.append((char) x.out(i));
@@ -81,14 +139,14 @@ final class Check {
         return all.toString();
     }
 
-    static String written(SoupReader x, int n) {
+    static String written(Soup x, int n) {
         int count = x.serialise(n);
         String all = out(x);
         due("length of what serialise(" + n + ") wrote", all.length(), count);
         return all;
     }
 
-    static String named(SoupReader x, int n) {
+    static String named(Soup x, int n) {
         int count = x.name(n);
         String all = out(x);
         due("length of what name(" + n + ") wrote", all.length(), count);
@@ -96,7 +154,7 @@ final class Check {
     }
 
     /** The FAULTS that are told, each as its number, @ and its PLACE. */
-    static String faults(SoupReader x) {
+    static String faults(Soup x) {
         StringBuilder all = new StringBuilder();
         for (int i = 0; x.fault(i, 0) != NONE; i++) {
             all.append(i == 0 ? "" : " ").append(x.fault(i, 0)).append('@').append(x.fault(i, 1));
@@ -106,7 +164,7 @@ final class Check {
 
     /** A new page gives the tree (SERIALISED, without THE ROOT's own tags) and the FAULTS. */
     static void read(String page, String tree, String faults) {
-        SoupReader x = new SoupReader();
+        Soup x = new Soup();
         page(x, page);
         due("tree of " + page, written(x, 0), "<div>" + tree + "</div>");
         due("faults of " + page, faults(x), faults);

@@ -36,7 +36,7 @@ public final class FaceTest {
     }
 
     private static void newObject() {
-        SoupReader x = new SoupReader();
+        Soup x = new Soup();
         Check.due("faults() of a new object", x.faults(), 0);
         Check.due("fault(0, 0) of a new object", x.fault(0, 0), -1);
         Check.due("fault(0, 1) of a new object", x.fault(0, 1), -1);
@@ -53,6 +53,6 @@ public final class FaceTest {
         Check.due("remove(0) of a new object", x.remove(0), -1);
         Check.due("THE ROOT of a new object", Check.written(x, 0), "<div></div>");
         Check.due("the NAME of THE ROOT", Check.named(x, 0), "div");
-        Check.due("page() of nothing", new SoupReader().page(), 1);
+        Check.due("page() of nothing", new Soup().page(), 1);
     }
 }

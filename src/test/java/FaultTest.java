@@ -16,7 +16,7 @@ public final class FaultTest {
     }
 
     private static void told() {
-        SoupReader x = new SoupReader();
+        Soup x = new Soup();
         Check.page(x, "ab</p>c</q>" + Check.times(38, "</z>"));
         Check.due("faults()", x.faults(), 40);
         Check.due("fault(0, 0)", x.fault(0, 0), 3);
@@ -126,7 +126,7 @@ public final class FaultTest {
         Check.read(open + "<b><i>t</i></b>" + close, open + "<b></b>" + close, "6@60 6@63 3@64");
         Check.read(open + "<b><b></b>t</b>" + close, open + "<b></b>t" + close, "6@60 3@68");
         Check.read(open + "<b><i a a></b>" + close, open + "<b></b>" + close, "2@65 6@60");
-        SoupReader x = new SoupReader();
+        Soup x = new Soup();
         Check.page(x, Check.times(30, "<x>"));
         Check.due("how deep", x.node(20, 6), 20);
         Check.due("no deeper", x.node(21, 6), -1);
@@ -146,7 +146,7 @@ public final class FaultTest {
     }
 
     private static void tooManyNodes() {
-        SoupReader x = new SoupReader();
+        Soup x = new Soup();
         Check.due("119 behind THE ROOT", Check.page(x, Check.times(119, "<br>")), 120);
         Check.due("no FAULT", x.faults(), 0);
         Check.due("one too many", Check.page(x, Check.times(120, "<br>")), 120);
@@ -182,7 +182,7 @@ public final class FaultTest {
         Check.read(full + "&lt;z", full, "7@400");
         Check.read(full.substring(1) + "&lt;&lt;", full.substring(1) + "&lt;", "7@403");
         Check.read("<style>" + full + "y</style>", "<style>" + full + "</style>", "7@407");
-        SoupReader x = new SoupReader();
+        Soup x = new Soup();
         Check.page(x, full + "y");
         Check.page(x, full + "y");
         Check.due("told of each page", Check.faults(x), "7@400");

@@ -19,7 +19,7 @@ public final class PageTest {
     }
 
     private static void lengths() {
-        SoupReader x = new SoupReader();
+        Soup x = new Soup();
         Check.due("an empty page", Check.page(x, ""), 1);
         Check.due("NODES", Check.page(x, "<p>a<b>c</b>d"), 6);
         Check.due("1500 bytes", Check.page(x, Check.times(375, "</x>")), 1);
@@ -30,7 +30,7 @@ public final class PageTest {
     }
 
     private static void whatStays() {
-        SoupReader x = new SoupReader();
+        Soup x = new Soup();
         Check.page(x, "<b>stays");
         Check.page(x, "gone\u0001");
         Check.due("behind a WRONG page", Check.written(x, 0), "<div><b>stays</b></div>");
@@ -49,7 +49,7 @@ public final class PageTest {
 
     /** A page of text alone gives a TEXT of these bytes. */
     private static void plain(String page, String want) {
-        SoupReader x = new SoupReader();
+        Soup x = new Soup();
         Check.page(x, page);
         Check.due("TEXT of " + page, Check.named(x, 1), want);
         Check.due("NODES of " + page, x.node(0, 2), 1);
@@ -182,7 +182,7 @@ public final class PageTest {
         Check.read("a<b></b> <!---->c", "a<b></b>c", "");
         Check.read("<b>a</b> <b>c</b>", "<b>a</b><b>c</b>", "");
         Check.read("a</x>b", "ab", "3@1");
-        SoupReader x = new SoupReader();
+        Soup x = new Soup();
         Check.due("runs join", Check.page(x, "a<!---->b</q>c"), 2);
         Check.due("runs do not join behind an ELEMENT", Check.page(x, "a<br>b"), 4);
         Check.due("blanks alone", Check.page(x, " \n "), 1);
@@ -242,7 +242,7 @@ public final class PageTest {
     }
 
     private static void numbers() {
-        SoupReader x = new SoupReader();
+        Soup x = new Soup();
         Check.page(x, "<p>a<br>b<p>c");
         int[] tags = {0, 1, 17, 10, 17, 1, 17};
         for (int n = 0; n < tags.length; n++) {

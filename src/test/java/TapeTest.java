@@ -12,7 +12,7 @@ public final class TapeTest {
     }
 
     private static void highestByteFirst() {
-        SoupReader x = new SoupReader();
+        Soup x = new Soup();
         Check.due("first feed", x.feed(0x61626364, 0x65666768, 0x696a6b6c, 0x6d6e6f70, 0x71727374), 20);
         Check.due("second feed", x.feed(0x75767778, 0x797a3031, 0x32333435, 0x36373839, 0x21232425), 40);
         Check.due("text(0)", x.text(0), 2);
@@ -20,7 +20,7 @@ public final class TapeTest {
     }
 
     private static void room() {
-        SoupReader x = new SoupReader();
+        Soup x = new Soup();
         for (int i = 1; i <= 100; i++) {
             Check.due("feed " + i, x.feed(0, 0, 0, 0, 0), 20 * i);
         }
@@ -35,7 +35,7 @@ public final class TapeTest {
     }
 
     private static void ends() {
-        SoupReader x = new SoupReader();
+        Soup x = new Soup();
         Check.due("end(0) of nothing", x.end(0), 0);
         Check.due("end(1) of nothing", x.end(1), -1);
         x.feed(0x61626364, 0x65666768, 0x696a6b6c, 0x6d6e6f70, 0x71727374);
@@ -53,7 +53,7 @@ public final class TapeTest {
     }
 
     private static void outs() {
-        SoupReader x = new SoupReader();
+        Soup x = new Soup();
         Check.due("out(0) at first", x.out(0), -1);
         Check.page(x, "<p a=xy b>hello");
         x.name(2);
@@ -79,8 +79,8 @@ public final class TapeTest {
     }
 
     private static void wrongBytes() {
-        SoupReader x = new SoupReader();
         for (int b = 0; b < 256; b++) {
+            Soup x = new Soup();
             boolean good = b == 10 || b >= 32 && b <= 126;
             String text = "ab" + (char) b + "\u0001";
             int want = good ? -1003 : -1002;
@@ -92,6 +92,7 @@ public final class TapeTest {
             Check.due("attribute with byte " + b, Check.attribute(x, 0, text), want);
             Check.due("page good but for byte " + b, Check.page(x, "ab" + (char) b), good ? 2 : -1002);
         }
+        Soup x = new Soup();
         Check.due("bad byte ahead of an earlier WRONG", Check.add(x, 0, "1bc\u007f"), -1003);
         Check.due("bad byte ahead of an earlier WRONG", Check.set(x, 0, "1=c\u0009"), -1003);
         Check.due("bad byte ahead of no such NODE", Check.text(x, 77, "abc\u0009"), -1003);
@@ -104,7 +105,7 @@ public final class TapeTest {
         int[] nodes = {0, 50, -1};
         for (String text : texts) {
             for (int n : nodes) {
-                SoupReader x = new SoupReader();
+                Soup x = new Soup();
                 Check.page(x, text);
                 Check.due("end(1) behind page of " + text, x.end(1), -1);
                 Check.attribute(x, n, text);
@@ -122,7 +123,7 @@ public final class TapeTest {
     }
 
     private static void keptBehindOthers() {
-        SoupReader x = new SoupReader();
+        Soup x = new Soup();
         Check.page(x, "<p>a<b>c");
         Check.tape(x, "kept");
         x.out(0);

@@ -15,15 +15,15 @@ public final class TreeTest {
         Check.close();
     }
 
-    private static SoupReader example() {
-        SoupReader x = new SoupReader();
+    private static Soup example() {
+        Soup x = new Soup();
         // 1 ul, 2 li, 3 text, 4 b, 5 text, 6 li, 7 br
         Check.due("page()", Check.page(x, "<ul id=u k><li>one<b>two!</b></li><li><br a=1 b=2 c=3 d=4></ul>"), 8);
         return x;
     }
 
     private static void nodes() {
-        SoupReader x = example();
+        Soup x = example();
         int[][] due = {
             {0, -1, 1, 0, 0, 0, 0}, {3, 0, 2, 0, 2, 0, 1}, {4, 1, 2, 0, 0, 0, 2}, {17, 2, 0, 0, 0, 3, 3},
             {8, 2, 1, 1, 0, 0, 3}, {17, 4, 0, 0, 0, 4, 4}, {4, 1, 1, 1, 0, 0, 2}, {10, 6, 0, 0, 4, 0, 3},
@@ -39,7 +39,7 @@ public final class TreeTest {
     }
 
     private static void noSuchNodes() {
-        SoupReader x = example();
+        Soup x = example();
         for (int n : STRANGE) {
             for (int what = -1; what < 8; what++) {
                 Check.due("node(" + n + ", " + what + ")", x.node(n, what), -1);
@@ -64,7 +64,7 @@ public final class TreeTest {
     }
 
     private static void kids() {
-        SoupReader x = example();
+        Soup x = example();
         int[][] due = {{1}, {2, 6}, {3, 4}, {}, {5}, {}, {7}, {}};
         for (int n = 0; n < due.length; n++) {
             for (int i = 0; i < due[n].length; i++) {
@@ -81,13 +81,13 @@ public final class TreeTest {
         String[] names = {"div", "p", "h1", "ul", "li", "form", "span", "a", "b", "i", "br", "hr", "img", "input",
             "button", "style", "other", "bb", "h2", "spa", "z"};
         for (int tag = 0; tag < names.length; tag++) {
-            SoupReader x = new SoupReader();
+            Soup x = new Soup();
             Check.page(x, "<" + names[tag] + ">");
             Check.due("the TAG of " + names[tag], x.node(1, 0), Math.min(tag, 16));
             Check.due("the NAME of " + names[tag], Check.named(x, 1), names[tag]);
             Check.page(x, "<" + names[tag].toUpperCase() + ">");
             Check.due("the TAG of " + names[tag] + " in capitals", x.node(1, 0), Math.min(tag, 16));
-            SoupReader y = new SoupReader();
+            Soup y = new Soup();
             Check.add(y, 0, names[tag]);
             Check.due("the TAG of an added " + names[tag], y.node(1, 0), Math.min(tag, 16));
             boolean empty = tag >= 10 && tag <= 13;
@@ -97,7 +97,7 @@ public final class TreeTest {
     }
 
     private static void names() {
-        SoupReader x = new SoupReader();
+        Soup x = new Soup();
         Check.page(x, "<abcdefghij>a&lt;b</abcdefgh><Q9>" + Check.times(400, "y"));
         Check.due("a long NAME", Check.named(x, 1), "abcdefgh");
         Check.due("a TEXT", Check.named(x, 2), "a<b");
@@ -108,7 +108,7 @@ public final class TreeTest {
     }
 
     private static void attributes() {
-        SoupReader x = new SoupReader();
+        Soup x = new Soup();
         Check.page(x, "<p a=1 bb='two' c9=\"3 &amp; <>\" abcdefghi>text");
         String[] names = {"a", "bb", "c9", "abcdefgh"};
         String[] values = {"1", "two", "3 & <>", ""};
@@ -140,7 +140,7 @@ public final class TreeTest {
             "`", "{", "a/", "a:", "a`", "a{", "a\n"};
         int[] places = {0, 0, 0, 0, 0, 1, 1, 2, 8, 8, 8, 4, 0, 0, 0, 1, 1, 1, 1, 1};
         for (int i = 0; i < texts.length; i++) {
-            SoupReader x = new SoupReader();
+            Soup x = new Soup();
             Check.tape(x, texts[i]);
             int got = call.equals("add") ? x.add(n) : call.equals("find") ? x.find(n) : x.attribute(n);
             Check.due(call + " of '" + texts[i] + "'", got, -1000 - places[i]);
@@ -148,7 +148,7 @@ public final class TreeTest {
         }
         String[] good = {"a", "z", "a0", "z9", "abcdefgh", "a2345678"};
         for (String text : good) {
-            SoupReader x = new SoupReader();
+            Soup x = new Soup();
             Check.tape(x, text);
             int got = call.equals("add") ? x.add(n) : call.equals("find") ? x.find(n) : x.attribute(n);
             Check.due(call + " of '" + text + "'", got, call.equals("add") && n == 0 ? 1 : -1);
@@ -156,7 +156,7 @@ public final class TreeTest {
     }
 
     private static void serialised() {
-        SoupReader x = example();
+        Soup x = example();
         Check.due("of a TEXT", Check.written(x, 3), "one");
         Check.due("of an ELEMENT", Check.written(x, 2), "<li>one<b>two!</b></li>");
         Check.due("of an EMPTY TAG", Check.written(x, 7), "<br a=\"1\" b=\"2\" c=\"3\" d=\"4\">");
@@ -178,7 +178,7 @@ public final class TreeTest {
     }
 
     private static void cutOff() {
-        SoupReader x = new SoupReader();
+        Soup x = new Soup();
         for (int i = 1; i <= 3; i++) {
             Check.add(x, 0, "b");
             Check.text(x, 2 * i - 1, Check.times(400, "\""));
