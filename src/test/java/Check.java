@@ -1,9 +1,27 @@
 /** What the tests share: texts in and out of a SoupReader, and a count of the answers that are not as due. */
 final class Check {
     static final int NONE = SoupReader.NONE;
+    private static final int MOST_SECONDS = 300;
     private static int wrong = 0;
 
+    static {
+        Thread watch = new Thread(Check::endLate);
+        watch.setDaemon(true);
+        watch.start();
+    }
+
     private Check() {
+    }
+
+    /** A call that does not end fails its test too. */
+    private static void endLate() {
+        try {
+            Thread.sleep(1000L * MOST_SECONDS);
+        } catch (InterruptedException e) {
+            return;
+        }
+        System.out.println("not ended within " + MOST_SECONDS + " seconds");
+        Runtime.getRuntime().halt(1);
     }
 
     static void due(String call, int got, int want) {
