@@ -75,6 +75,10 @@ final class PlainSoup {
         return n;
     }
 
+    int tapeLength() {
+        return tape.length();
+    }
+
     int out(int i) {
         return i >= 0 && i < out.length() ? out.charAt(i) : -1;
     }
